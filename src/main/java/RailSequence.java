@@ -302,9 +302,6 @@ public final class RailSequence {
                 return ticks;
             }
             future.passTick();
-            if (future.isSettled()) {
-                return NONE;
-            }
         }
         return NONE;
     }

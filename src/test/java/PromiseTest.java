@@ -576,6 +576,16 @@ public final class PromiseTest {
         u.tick(1);
         dueRail(u, 0, 4, 800, 1, 0, NONE);
 
+        // and with a blame from before
+        RailSequence q = oneRail();
+        q.set(0, 5, 2);
+        q.on(1);
+        q.tick(13);
+        dueRail(q, 0, 2, 400, 1, 1, 0);
+        q.off(1);
+        q.tick(1);
+        dueRail(q, 0, 4, 800, 1, 1, NONE);
+
         RailSequence t = oneRail();
         for (int i = 0; i < 99; i++) {
             t.tick(200);
