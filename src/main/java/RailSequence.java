@@ -286,9 +286,10 @@ public final class RailSequence {
             if ((future.wanted & ~future.maskOf(GOOD)) == 0) {
                 return ticks;
             }
+            boolean isFree = !future.isAnyShorted();
             future.passTick();
-            if (future.isSettled()) {
-                return NONE;
+            if (isFree && future.wasStill()) {
+                return NONE; // as no later tick would change anything either
             }
         }
         return NONE;
@@ -663,6 +664,15 @@ public final class RailSequence {
             return sum;
         }
 
+        boolean isAnyShorted() {
+            for (int rail = 0; rail < rails; rail++) {
+                if (shorted[rail] > 0) {
+                    return true;
+                }
+            }
+            return false;
+        }
+
         boolean isAllOff() {
             for (int rail = 0; rail < rails; rail++) {
                 if (state[rail] != OFF || !isDischarged(rail)) {
@@ -850,16 +860,6 @@ public final class RailSequence {
                 }
             }
             return true;
-        }
-
-        /** Then no later tick changes anything either, so a forecast need not go on. */
-        boolean isSettled() {
-            for (int rail = 0; rail < rails; rail++) {
-                if (shorted[rail] > 0) {
-                    return false;
-                }
-            }
-            return wasStill();
         }
 
         int justDropped() {

@@ -1,14 +1,5 @@
-import java.util.function.IntSupplier;
-
 /** For each promise of the document: ordinary inputs, the edges, and wrong inputs. */
-public final class PromiseTest {
-    private static final Class<?> INDEX = IndexOutOfBoundsException.class;
-    private static final Class<?> ARGUMENT = IllegalArgumentException.class;
-    private static final Class<?> STATE = IllegalStateException.class;
-    private static final int NONE = RailSequence.NONE;
-    private static int wrong = 0;
-    private static int promise = 0;
-
+public final class PromiseTest extends Check {
     public static void main(String[] args) {
         newObject();
         addRail();
@@ -38,130 +29,13 @@ public final class PromiseTest {
         leastPatience();
         goodShare();
         digest();
-        System.out.println(wrong == 0 ? "all answers are as due" : wrong + " answers are not as due");
-        if (wrong != 0) {
-            System.exit(1);
-        }
-    }
-
-    // ---- how answers are looked at
-
-    private static void due(String what, long want, long got) {
-        if (got != want) {
-            wrong++;
-            System.out.println("promise " + promise + ": " + what + " is " + got + ", due is " + want);
-        }
-    }
-
-    private static void refuses(String what, Class<?> want, RailSequence x, IntSupplier call) {
-        long before = x.digest();
-        Class<?> got = null;
-        try {
-            call.getAsInt();
-        } catch (RuntimeException e) {
-            got = e.getClass();
-        }
-        if (got != want) {
-            wrong++;
-            System.out.println("promise " + promise + ": " + what + " throws " + got + ", due is " + want);
-        }
-        due(what + " changes something: digest", before, x.digest());
-    }
-
-    /** The call saves a state, and undo brings everything back that was before it. */
-    private static void undoable(String what, RailSequence x, IntSupplier call) {
-        int saved = x.count(8);
-        String before = seen(x);
-        call.getAsInt();
-        due(what + " saves: count(8)", Math.min(saved + 1, 6), x.count(8));
-        x.undo();
-        String after = seen(x);
-        if (!before.equals(after)) {
-            wrong++;
-            System.out.println("promise " + promise + ": after undo of " + what + ": " + after + ", due is " + before);
-        }
-    }
-
-    private static String seen(RailSequence x) {
-        StringBuilder all = new StringBuilder();
-        for (int what = 0; what < 8; what++) {
-            all.append(x.count(what)).append(' ');
-        }
-        for (int r = 0; r < x.count(0); r++) {
-            for (int what = 0; what < 19; what++) {
-                all.append(x.rail(r, what)).append(' ');
-            }
-            for (int what = 0; what < 4; what++) {
-                all.append(x.account(r, what)).append(' ');
-            }
-        }
-        for (int back = 0; back < 16; back++) {
-            all.append(entryText(x, back)).append(' ');
-        }
-        return all.toString();
-    }
-
-    private static String entryText(RailSequence x, int back) {
-        return x.entry(back, 0) + "," + x.entry(back, 1) + "," + x.entry(back, 2) + "," + x.entry(back, 3);
-    }
-
-    private static void dueEntry(RailSequence x, int back, int tick, int rail, int state, int blame) {
-        String want = tick + "," + rail + "," + state + "," + blame;
-        if (!want.equals(entryText(x, back))) {
-            wrong++;
-            System.out.println("promise " + promise + ": entry " + back + " is " + entryText(x, back) + ", due is " + want);
-        }
-    }
-
-    private static void dueRail(RailSequence x, int rail, int state, int voltage, int time, int failures, int blame) {
-        due("state of " + rail, state, x.rail(rail, 10));
-        due("voltage of " + rail, voltage, x.rail(rail, 11));
-        due("time of " + rail, time, x.rail(rail, 15));
-        due("failures of " + rail, failures, x.rail(rail, 16));
-        due("blame of " + rail, blame, x.rail(rail, 17));
-    }
-
-    private static void type(RailSequence x, String text) {
-        x.clearBuffer();
-        for (int i = 0; i < text.length(); i++) {
-            x.append(text.charAt(i));
-        }
-    }
-
-    // ---- what is looked at
-
-    /** Rises in 3 ticks of rising, and falls in 4. */
-    private static RailSequence oneRail() {
-        RailSequence x = new RailSequence();
-        x.addRail(1000, 400, 300, 0);
-        return x;
-    }
-
-    /** 0 alone, 1 and 2 on 0, 3 on 1; without delays. */
-    private static RailSequence fourRails() {
-        RailSequence x = new RailSequence();
-        x.addRail(1000, 1000, 500, 0);
-        x.addRail(1000, 1000, 500, 1);
-        x.addRail(1000, 1000, 500, 1);
-        x.addRail(1000, 1000, 500, 2);
-        for (int r = 0; r < 4; r++) {
-            x.set(r, 4, 0);
-        }
-        return x;
-    }
-
-    private static RailSequence fourGoodRails() {
-        RailSequence x = fourRails();
-        x.on(15);
-        x.tick(20);
-        due("rails good at first", 15, x.count(4));
-        return x;
+        end();
     }
 
     // ---- the promises
 
     private static void newObject() {
-        promise = 1;
+        about("promise 1");
         RailSequence x = new RailSequence();
         for (int what = 0; what < 9; what++) {
             due("count(" + what + ")", what == 2 ? 100 : 0, x.count(what));
@@ -180,7 +54,7 @@ public final class PromiseTest {
     }
 
     private static void addRail() {
-        promise = 2;
+        about("promise 2");
         RailSequence x = new RailSequence();
         refuses("target 99", ARGUMENT, x, () -> x.addRail(99, 1, 1, 0));
         refuses("target 5001", ARGUMENT, x, () -> x.addRail(5001, 1, 1, 0));
@@ -213,7 +87,7 @@ public final class PromiseTest {
     }
 
     private static void set() {
-        promise = 3;
+        about("promise 3");
         int[] least = {100, 1, 1, 50, 0, 1, 1};
         int[] most = {5000, 1000, 1000, 100, 50, 200, 4};
         int[] atFirst = {1000, 400, 300, 90, 2, 40, 2};
@@ -236,7 +110,7 @@ public final class PromiseTest {
     }
 
     private static void setNeeds() {
-        promise = 4;
+        about("promise 4");
         RailSequence x = fourRails();
         due("before", 2, x.setNeeds(3, 7));
         due("then", 7, x.setNeeds(3, 4));
@@ -269,7 +143,7 @@ public final class PromiseTest {
     }
 
     private static void setResidue() {
-        promise = 5;
+        about("promise 5");
         RailSequence x = oneRail();
         undoable("setResidue", x, () -> x.setResidue(1));
         due("at first", 100, x.setResidue(0));
@@ -304,7 +178,7 @@ public final class PromiseTest {
     }
 
     private static void on() {
-        promise = 6;
+        about("promise 6");
         RailSequence x = fourRails();
         undoable("on", x, () -> x.on(8));
         due("3 with 1 and 0", 11, x.on(8));
@@ -321,7 +195,7 @@ public final class PromiseTest {
     }
 
     private static void off() {
-        promise = 7;
+        about("promise 7");
         RailSequence x = fourRails();
         x.on(15);
         undoable("off", x, () -> x.off(2));
@@ -337,7 +211,7 @@ public final class PromiseTest {
     }
 
     private static void restart() {
-        promise = 8;
+        about("promise 8");
         RailSequence x = fourGoodRails();
         refuses("no rail 4", INDEX, x, () -> x.restart(4));
         refuses("no rail -1", INDEX, x, () -> x.restart(-1));
@@ -395,7 +269,7 @@ public final class PromiseTest {
     }
 
     private static void shortCircuit() {
-        promise = 9;
+        about("promise 9");
         RailSequence x = oneRail();
         x.set(0, 6, 4);
         x.on(1);
@@ -430,7 +304,7 @@ public final class PromiseTest {
     }
 
     private static void stick() {
-        promise = 10;
+        about("promise 10");
         RailSequence x = oneRail();
         undoable("stick", x, () -> x.stick(0, 2));
         due("before", 0, x.stick(0, 2));
@@ -457,7 +331,7 @@ public final class PromiseTest {
     }
 
     private static void tick() {
-        promise = 11;
+        about("promise 11");
         RailSequence x = oneRail();
         refuses("0", ARGUMENT, x, () -> x.tick(0));
         refuses("-1", ARGUMENT, x, () -> x.tick(-1));
@@ -600,7 +474,7 @@ public final class PromiseTest {
     }
 
     private static void append() {
-        promise = 12;
+        about("promise 12");
         RailSequence x = new RailSequence();
         refuses("32", ARGUMENT, x, () -> x.append(32));
         refuses("127", ARGUMENT, x, () -> x.append(127));
@@ -616,7 +490,7 @@ public final class PromiseTest {
     }
 
     private static void clearBuffer() {
-        promise = 13;
+        about("promise 13");
         RailSequence x = new RailSequence();
         type(x, "abc");
         due("length", 3, x.clearBuffer());
@@ -626,7 +500,7 @@ public final class PromiseTest {
     }
 
     private static void firstError() {
-        promise = 14;
+        about("promise 14");
         errorAt("", 0);
         errorAt("1", 1);
         errorAt("0", 0);
@@ -683,7 +557,7 @@ public final class PromiseTest {
     }
 
     private static void load() {
-        promise = 15;
+        about("promise 15");
         for (String text : new String[] {"", "100", "100/1", "100/1/", "100/1/1<", "100/1/1;", "100/1/1;99",
                 "100/1/1<;100/1/1", "99/1/1", "100/1/1x", "100/1/1<0;", "5001/1/1", "100/1001/1"}) {
             RailSequence x = new RailSequence();
@@ -728,7 +602,7 @@ public final class PromiseTest {
     }
 
     private static void undo() {
-        promise = 16;
+        about("promise 16");
         RailSequence x = new RailSequence();
         refuses("none", STATE, x, x::undo);
         x.addRail(1000, 400, 300, 0);
@@ -771,7 +645,7 @@ public final class PromiseTest {
     }
 
     private static void rail() {
-        promise = 17;
+        about("promise 17");
         RailSequence x = fourGoodRails();
         refuses("no rail 4", INDEX, x, () -> x.rail(4, 0));
         refuses("no rail -1", INDEX, x, () -> x.rail(-1, 0));
@@ -825,7 +699,7 @@ public final class PromiseTest {
     }
 
     private static void account() {
-        promise = 18;
+        about("promise 18");
         RailSequence x = oneRail();
         refuses("no rail 1", INDEX, x, () -> x.account(1, 0));
         refuses("no rail, wrong what", INDEX, x, () -> x.account(-1, 4));
@@ -834,31 +708,24 @@ public final class PromiseTest {
         x.set(0, 5, 2);
         x.on(1);
         x.tick(60);
-        dueAccounts(x, 2, 0, 2, 0);
+        dueAccounts(x, 0, 2, 0, 2, 0);
         x.set(0, 5, 40);
         x.restart(0);
         x.tick(1);
-        dueAccounts(x, 2, 0, 2, 0);
+        dueAccounts(x, 0, 2, 0, 2, 0);
         x.tick(3);
-        dueAccounts(x, 3, 0, 2, 0);
+        dueAccounts(x, 0, 3, 0, 2, 0);
         x.tick(3);
-        dueAccounts(x, 3, 1, 2, 1);
+        dueAccounts(x, 0, 3, 1, 2, 1);
         x.tick(10);
-        dueAccounts(x, 3, 1, 2, 11);
+        dueAccounts(x, 0, 3, 1, 2, 11);
         x.stick(0, 1);
         x.tick(1);
-        dueAccounts(x, 3, 1, 3, 11);
-    }
-
-    private static void dueAccounts(RailSequence x, int rising, int good, int failures, int ticks) {
-        due("became rising", rising, x.account(0, 0));
-        due("became good", good, x.account(0, 1));
-        due("failures", failures, x.account(0, 2));
-        due("ticks good", ticks, x.account(0, 3));
+        dueAccounts(x, 0, 3, 1, 3, 11);
     }
 
     private static void entry() {
-        promise = 19;
+        about("promise 19");
         RailSequence x = oneRail();
         refuses("back -1", ARGUMENT, x, () -> x.entry(-1, 0));
         refuses("back 16", ARGUMENT, x, () -> x.entry(16, 0));
@@ -895,7 +762,7 @@ public final class PromiseTest {
     }
 
     private static void forget() {
-        promise = 20;
+        about("promise 20");
         RailSequence x = fourGoodRails();
         refuses("no rail 4", INDEX, x, () -> x.forget(4));
         refuses("no rail -1", INDEX, x, () -> x.forget(-1));
@@ -919,7 +786,7 @@ public final class PromiseTest {
     }
 
     private static void count() {
-        promise = 21;
+        about("promise 21");
         RailSequence x = fourGoodRails();
         refuses("10", ARGUMENT, x, () -> x.count(10));
         refuses("-1", ARGUMENT, x, () -> x.count(-1));
@@ -960,7 +827,7 @@ public final class PromiseTest {
     }
 
     private static void allGoodIn() {
-        promise = 22;
+        about("promise 22");
         RailSequence x = oneRail();
         due("none wanted", 0, x.allGoodIn());
         x.on(1);
@@ -1005,7 +872,7 @@ public final class PromiseTest {
     }
 
     private static void allOffIn() {
-        promise = 23;
+        about("promise 23");
         due("with no rails", 0, new RailSequence().allOffIn());
         RailSequence x = oneRail();
         due("off", 0, x.allOffIn());
@@ -1037,7 +904,7 @@ public final class PromiseTest {
     }
 
     private static void ifShort() {
-        promise = 24;
+        about("promise 24");
         RailSequence x = fourGoodRails();
         refuses("no rail 4", INDEX, x, () -> x.ifShort(4, 1, 0));
         refuses("no rail, wrong ticks", INDEX, x, () -> x.ifShort(-1, 0, 0));
@@ -1072,7 +939,7 @@ public final class PromiseTest {
     }
 
     private static void leastPatience() {
-        promise = 25;
+        about("promise 25");
         RailSequence x = oneRail();
         refuses("no rail 1", INDEX, x, () -> x.leastPatience(1));
         refuses("no rail -1", INDEX, x, () -> x.leastPatience(-1));
@@ -1110,7 +977,7 @@ public final class PromiseTest {
     }
 
     private static void goodShare() {
-        promise = 26;
+        about("promise 26");
         due("no rails", 0L, Double.doubleToLongBits(new RailSequence().goodShare()));
         RailSequence x = new RailSequence();
         x.tick(5);
@@ -1127,36 +994,36 @@ public final class PromiseTest {
     }
 
     private static void digest() {
-        promise = 27;
+        about("promise 27");
         RailSequence x = new RailSequence();
-        dueDigest(x);
+        dueDigest("a new object", x, "");
         type(x, "a~!");
-        dueDigest(x);
+        dueDigest("a text", x, "a~!");
         x.addRail(1000, 400, 300, 0);
         x.addRail(1000, 4, 300, 1);
-        dueDigest(x);
+        dueDigest("two rails", x, "a~!");
         x.on(3);
         for (int i = 0; i < 40; i++) {
             x.tick(1 + i * 3);
-            dueDigest(x);
+            dueDigest("two rails that rise", x, "a~!");
         }
         RailSequence y = oneRail();
         y.stick(0, 2);
         y.set(0, 4, 0);
         y.on(1);
         y.tick(3);
-        dueDigest(y);
+        dueDigest("a stuck one", y, "");
         for (int i = 0; i < 100; i++) {
             y.tick(199);
         }
-        dueDigest(y);
+        dueDigest("a stuck one", y, "");
         RailSequence z = oneRail();
         for (int i = 0; i < 98; i++) {
             z.tick(200);
         }
         z.on(1);
         z.tick(7);
-        dueDigest(z);
+        dueDigest("a late one", z, "");
         due("a new object", newDigest(), new RailSequence().digest());
     }
 
@@ -1168,38 +1035,5 @@ public final class PromiseTest {
             hash = 31 * hash + value;
         }
         return hash;
-    }
-
-    private static void dueDigest(RailSequence x) {
-        int length = x.clearBuffer();
-        due("the digest leaves the buffer", 0, x.clearBuffer());
-        String text = length == 0 ? "" : "a~!";
-        type(x, text);
-        long hash = 2179;
-        for (int what = 0; what < 10; what++) {
-            hash = 31 * hash + x.count(what);
-        }
-        for (int r = 0; r < x.count(0); r++) {
-            for (int what = 0; what < 19; what++) {
-                hash = 31 * hash + x.rail(r, what);
-            }
-            for (int what = 0; what < 4; what++) {
-                hash = 31 * hash + x.account(r, what);
-            }
-            hash = 31 * hash + x.leastPatience(r);
-        }
-        for (int back = 0; back < x.count(6); back++) {
-            for (int what = 0; what < 4; what++) {
-                hash = 31 * hash + x.entry(back, what);
-            }
-        }
-        hash = 31 * hash + x.allGoodIn();
-        hash = 31 * hash + x.allOffIn();
-        hash = 31 * hash + Double.doubleToLongBits(x.goodShare());
-        hash = 31 * hash + text.length();
-        for (int i = 0; i < text.length(); i++) {
-            hash = 31 * hash + text.charAt(i);
-        }
-        due("digest", hash, x.digest());
     }
 }
